@@ -4,6 +4,7 @@ import java.util.Random;
 public final class ModelTest {
     private static final int RUNS = 400;
     private static final int CALLS = 512;
+    private static final int RICH_RUNS = 360;
     private static final Checks CHECKS = new Checks();
     private static final String BYTES = "cmwfvsh;;;; 0123456789abcdef--xC\t";
 
@@ -24,7 +25,46 @@ public final class ModelTest {
             CHECKS.part("run " + run);
             new ModelTest(run).run(run % 4 == 3);
         }
+        for (int run = 0; run < RICH_RUNS && CHECKS.wrong() < 20; run++) {
+            CHECKS.part("rich run " + run);
+            new ModelTest(run).runRich(run);
+        }
         CHECKS.end();
+    }
+
+    /** Each code in turn with a hurt word and all places soft: the plain runs seldom have many of both. */
+    private void runRich(int run) {
+        int m = run % 6;
+        int r = run / 6 % (m + 1);
+        int range = run % 2 == 0 ? 99 : 3;
+        ask("code(" + r + ", " + m + ")", real.code(r, m), model.code(r, m));
+        for (int round = 0; round < 4; round++) {
+            int message = random.nextInt() >>> 32 - model.of(2);
+            int n = upTo(Math.min(model.of(4), 2 * model.of(5) + 1));
+            ask("encode(" + message + ")", real.encode(message), model.encode(message));
+            ask("hurt(" + run + ", " + n + ")", real.hurt(run, n), model.hurt(run, n));
+            for (int i = 0; i <= lastPlace(); i++) {
+                int soft = upTo(2 * range) - range;
+                ask("soft(" + i + ", " + soft + ")", real.soft(i, soft), model.soft(i, soft));
+            }
+            for (int which = 11; which < 28; which++) {
+                if (which != 15 && (which < 20 || which > 22)) {
+                    step(which);
+                    CHECKS.due(said, got, want);
+                }
+            }
+            for (int what = 0; what < 4; what++) {
+                ask("vote(" + what + ")", real.vote(what), model.vote(what));
+                ask("merit(" + what + ")", real.merit(what), model.merit(what));
+                ask("best(" + what + ")", real.best(what), model.best(what));
+            }
+            ask("digest()", real.digest(), model.digest());
+        }
+    }
+
+    private void ask(String call, long a, long b) {
+        answers(call, a, b);
+        CHECKS.due(said, got, want);
     }
 
     private void run(boolean texts) {

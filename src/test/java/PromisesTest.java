@@ -711,6 +711,12 @@ public final class PromisesTest {
         softs(x, 99, 99, 99, 99, 99, 99, 99, 99);
         due("merit(0)", x.merit(0), -792);
         due("merit(1)", x.merit(1), 792);
+        x = with(1, 3, 0xf0);
+        softs(x, 2, 2, 1, 1, 1, 0, 0, -2);
+        due("halves(), not the best", x.halves(), 0);
+        due("merit(0) of the best", x.merit(0), 7);
+        due("merit(1)", x.merit(1), 5);
+        due("merit(2)", x.merit(2), 7);
         x = with(0, 5, -1);
         x.harden(99);
         due("merit(2)", x.merit(2), 32 * 99);
