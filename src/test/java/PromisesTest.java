@@ -1024,12 +1024,11 @@ public final class PromisesTest {
         faultNew("w 000000000", 2);
         faultNew("v;h", 3);
         due("blanks behind the last", tell(new PlusCodes(), "v;   "), 1);
-        PlusCodes x = new PlusCodes();
-        StringBuilder blanks = new StringBuilder();
-        for (int k = 0; k < 119; k++) {
-            blanks.append(' ');
+        for (String last : new String[] {"v", "c", "c 1 ", "c 1 3", "m", "m5", "w ", "f", "f 1", "s", "s 1", "s 1 ", "s 1-5", ""}) {
+            faultNew(" ".repeat(120 - last.length()) + last, 120);
         }
-        fault(x, blanks + "v", 120);
+        faultNew(" ".repeat(115) + "s 1 -", 119);
+        due("the last byte ends it", tell(new PlusCodes(), " ".repeat(118) + "v;"), 1);
     }
 
     private static void boundsAsTheCodeIsThen() {
