@@ -406,7 +406,7 @@ public final class PlusCodes {
             case 'm': live.word = live.code.wordOf(text.readHex(live.code.allTerms())); break;
             case 'w': live.word = text.readHex(live.code.allPlaces()); break;
             case 'f': live.word ^= 1 << text.readNumber(0, live.code.places - 1); break;
-            case 'v': orderVotes(); break;
+            case 'v': ballot.hold(live.code, live.word); live.word = ballot.mended; break;
             case 's': orderSoft(); break;
             case 'h': live.word = halver.solve(live.code, live.soft); break;
             default: return;
@@ -418,11 +418,6 @@ public final class PlusCodes {
         int r = text.readNumber(0, MOST_LENGTH);
         int m = text.readNumber(r, MOST_LENGTH);
         live.start(r, m);
-    }
-
-    private void orderVotes() {
-        ballot.hold(live.code, live.word);
-        live.word = ballot.mended;
     }
 
     private void orderSoft() {
