@@ -720,6 +720,26 @@ public final class BoundaryTest {
         due("near()", x.near(), 0xff);
         x = with(0, 0, 1);
         due("near() of one place", x.near(), 1);
+        shorterCodesBehindLonger();
+    }
+
+    /** What was gone through for a long code may not be seen in a short one. */
+    private static void shorterCodesBehindLonger() {
+        PlusCodes x = Looks.bare(4, 4);
+        x.near();
+        x.code(0, 2);
+        x.word(0b0001);
+        due("near() of a shorter code", x.near(), 0);
+        due("nearest(0) of a shorter code", x.nearest(0), 1);
+        due("nearest(1) of a shorter code", x.nearest(1), 1);
+        due("weights(0) of a shorter code", x.weights(0), 1);
+        due("weights(2) of a shorter code", x.weights(2), 0);
+        x.harden(9);
+        due("merit(2) of a shorter code", x.merit(2), 18);
+        x.encode(1);
+        due("votes() of the last message", x.votes(), 1);
+        x.encode(0);
+        due("votes() of the first message then", x.votes(), 0);
     }
 
     // ---- 21 to 24
@@ -796,6 +816,15 @@ public final class BoundaryTest {
         due("z of 0 and -5 is 0, as of 0 and 5: with -1 v is 1", softly(1, 2, 0, 1, -5, -1).halves(), 0b1100);
         due("z of 0 and -5 with 0: v is 0; u is -5, 1", softly(1, 2, 0, 1, -5, 0).halves(), 0b0101);
         due("z of -5 and 0 with 0: v is 0; u is -5, 1", softly(1, 2, -5, 1, 0, 0).halves(), 0b0101);
+        due("z of -1 and 5 is -1: v 1; u -1 - 5, 0", softly(1, 2, -1, 0, 5, 0).halves(), 0b1001);
+        due("z of 5 and -1 is -1: v 1; u 5 + 1, 0", softly(1, 2, 5, 0, -1, 0).halves(), 0b1100);
+        due("z of 1 and 5 is 1: v 0; u 6, 0", softly(1, 2, 1, 0, 5, 0).halves(), 0);
+        CHECKS.part("23 'v is HALVES of order r less 1', 'u is HALVES of order r'");
+        // z is 9, -9, 9, -9: v of order 1 is 1010, of order 0 it were 0; u is 18 at all places
+        due("order 2, length 3", softly(2, 3, 9, 9, 9, 9, 9, -9, 9, -9).halves(), 0xa0);
+        // z is 9, 9, 9, -9: v is 0 by -9 + 9 and 0; u of order r as m is each alone: 18, 18, 18, 0
+        due("order 2, length 3", softly(2, 3, 9, 9, 9, 9, 9, 9, 9, -9).halves(), 0);
+        due("order 2, length 3, one of u below 0", softly(2, 3, 9, 9, 9, 8, 9, 9, 9, -9).halves(), 0x88);
         CHECKS.part("23 'that of i, and that of the upper one or 0 less it, if v has 1 there, together'");
         due("v 0: u 3 - 3 is 0: 0", softly(1, 2, 3, 9, -3, 9).halves(), 0);
         due("v 0: u 3 - 4 is -1: 1", softly(1, 2, 3, 9, -4, 9).halves(), 0b0101);
@@ -829,6 +858,13 @@ public final class BoundaryTest {
         };
         LOOKS.asks("merit(0) of -3", threeBelow, x -> x.merit(0), -3);
         LOOKS.refused("merit(2) with 32 terms", threeBelow, x -> x.merit(2), NO, BY_NO);
+        // halves do not find the best word here, and the best of all is no word of the code
+        PlusCodes y = softly(1, 3, 2, 2, 1, 1, 1, 0, 0, -2);
+        y.word(0xf0);
+        allAre("merit", y, y::merit, 7, 5, 7);
+        y = softly(0, 1, -5, 5);
+        y.word(1);
+        allAre("merit", y, y::merit, 10, 0, 0);
         // the greatest is that of the last message of 16 terms
         PlusCodes x = Looks.bare(2, 5);
         x.encode(65535);

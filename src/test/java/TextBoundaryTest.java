@@ -40,6 +40,7 @@ public final class TextBoundaryTest {
         blanks();
         faultAtTheEnd();
         tooEarly();
+        eachOrderAlone();
         boundsByTheCodeThen();
         firstFaultCounts();
         nothingIsDoneByAFault();
@@ -494,7 +495,34 @@ public final class TextBoundaryTest {
                 int place = cut.endsWith("-") ? n - 1 : n;
                 fault(cut, place);
                 fault("v;" + cut, place + 2);
+                fault(" ".repeat(120 - n) + cut, 120 - n + place);
+                bytesBehindTheEnd(text, cut, place);
             }
+        }
+    }
+
+    /** A longer text was there ahead and was cleared: its bytes are no more, even where they lie behind the end. */
+    private static void bytesBehindTheEnd(String longer, String text, int place) {
+        PlusCodes x = new PlusCodes();
+        Looks.write(x, longer);
+        x.clear();
+        Looks.write(x, text);
+        due("does() by '" + text + "' where '" + longer + "' was", x.does(), -10 - place);
+        due("told(4)", x.told(4), 0);
+    }
+
+    private static void eachOrderAlone() {
+        CHECKS.part("30 each order does its own and no more");
+        String[] orders = {"c 1 3;", "m 2;", "w 12;", "f 3;", "v;", "s 3 -99;", "h;"};
+        // h: z is 0, -1, 0, 0, so v is 1111; u is of 7, -2, -7, 0: 0110
+        int[] words = {0, 0xaa, 0x12, 0x0e, 0, 0x06, 0x96};
+        int[] softs = {0, -7, -7, -7, -7, -7, -7};
+        for (int k = 0; k < orders.length; k++) {
+            PlusCodes x = behind(1, 3, "w 6;s 2 -7;s 0 7;s 1 -1;s 5 1;" + orders[k]);
+            due("told(4)", x.told(4), 2);
+            due("now() by " + orders[k], x.now(), words[k]);
+            due("soft(2, 0) by " + orders[k], x.soft(2, 0), softs[k]);
+            due("soft(3, 0) by " + orders[k], x.soft(3, 0), orders[k].startsWith("s") ? -99 : 0);
         }
     }
 
