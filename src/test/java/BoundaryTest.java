@@ -736,6 +736,9 @@ public final class BoundaryTest {
         due("weights(2) of a shorter code", x.weights(2), 0);
         x.harden(9);
         due("merit(2) of a shorter code", x.merit(2), 18);
+        x.word(0b1010);
+        x.harden(9);
+        due("merit(2) of a shorter code, no word of which is near", x.merit(2), 0);
         x.encode(1);
         due("votes() of the last message", x.votes(), 1);
         x.encode(0);
