@@ -6,103 +6,94 @@ import java.nio.file.Files;
 import java.nio.file.Path;
 import java.util.Set;
 import java.util.TreeSet;
+import java.util.regex.Matcher;
+import java.util.regex.Pattern;
 
-/** The public face is the document's and no more; of LANGUAGE.md what can be seen without reading the code. */
+/** The public face is the one that stands in the document, and nothing beside it. */
 public final class FaceTest {
     private static final Checks CHECKS = new Checks();
-    private static final String[] FACE = {
-        "int code(int,int)", "int of(int)", "int term(int)", "int word(int)", "int encode(int)", "int flip(int)",
-        "int hurt(int,int)", "int now()", "int at(int)", "int weight()", "int isWord()", "int coefficient(int)",
-        "int votes()", "int vote(int)", "int mends()", "int sign(int)", "int best(int)", "int nearest(int)",
-        "int near()", "int soft(int,int)", "int harden(int)", "int halves()", "int merit(int)", "int weights(int)",
-        "int perpendicular()", "int asked(int)", "int type(int)", "int clear()", "int does()", "int back()",
-        "int told(int)", "long digest()"
-    };
-    private static final String[] WORDS_RULED_OUT = {
-        "throw", "throws", "try", "catch", "finally", "synchronized", "assert", "package", "protected", "var", "Object",
-        "Math.random", "System.out", "System.nanoTime", "System.currentTimeMillis", "hashCode", "toString"
-    };
+    private static final Pattern BLOCK = Pattern.compile("(?ms)^```java\n(public final class PlusCodes .*?)^```$");
+    private static final Pattern CONSTANT = Pattern.compile("([A-Z]+) = (-?\\d+)[,;]");
+    private static final Pattern METHOD = Pattern.compile("public (int|long) (\\w+)\\((.*?)\\);");
+    private static final int METHODS = 32;
+    private static final int CONSTANTS = 4;
 
     public static void main(String[] args) throws Exception {
         CHECKS.part("face");
-        face();
-        constants();
+        Matcher block = BLOCK.matcher(Files.readString(Path.of("../shared/DOC.md")));
+        CHECKS.holds("the document tells the face", block.find());
+        String face = block.group(1);
+        itself();
+        methods(face);
+        constants(face);
         CHECKS.part("inside");
         inside();
-        CHECKS.part("language");
-        language(Files.readString(Path.of("src/main/java/PlusCodes.java")));
         CHECKS.end();
     }
 
-    private static void face() {
+    private static void itself() {
         Class<?> c = PlusCodes.class;
-        CHECKS.holds("the class is public and final", Modifier.isPublic(c.getModifiers()) && Modifier.isFinal(c.getModifiers()));
-        Set<String> open = new TreeSet<>();
-        Set<String> openNames = new TreeSet<>();
-        for (Method m : c.getDeclaredMethods()) {
-            if (!Modifier.isPrivate(m.getModifiers())) {
-                CHECKS.holds(m + " is public and not static", Modifier.isPublic(m.getModifiers()) && !Modifier.isStatic(m.getModifiers()));
-                open.add(signature(m));
-                openNames.add(m.getName());
-            }
-        }
-        CHECKS.holds("the public methods are the document's: " + open, open.equals(new TreeSet<>(Set.of(FACE))));
-        for (Method m : c.getDeclaredMethods()) {
-            CHECKS.holds(m + " bears no public name", !Modifier.isPrivate(m.getModifiers()) || !openNames.contains(m.getName()));
-        }
+        CHECKS.due("the class is public and final", c.getModifiers(), Modifier.PUBLIC | Modifier.FINAL);
+        CHECKS.holds("it is a class of its own", c.getSuperclass() == Object.class && c.getInterfaces().length == 0);
+        CHECKS.holds("it has no package", c.getPackageName().isEmpty());
         Constructor<?>[] made = c.getDeclaredConstructors();
         CHECKS.holds("one public constructor without arguments",
             made.length == 1 && Modifier.isPublic(made[0].getModifiers()) && made[0].getParameterCount() == 0);
     }
 
+    private static void methods(String face) {
+        Set<String> due = new TreeSet<>();
+        Set<String> names = new TreeSet<>();
+        Matcher method = METHOD.matcher(face);
+        while (method.find()) {
+            due.add(method.group(1) + " " + method.group(2) + "(" + method.group(3).replaceAll(" \\w+(, )?", "$1") + ")");
+            names.add(method.group(2));
+        }
+        CHECKS.due("methods of the document", due.size(), METHODS);
+        Set<String> open = new TreeSet<>();
+        for (Method m : PlusCodes.class.getDeclaredMethods()) {
+            if (Modifier.isPrivate(m.getModifiers())) {
+                CHECKS.holds(m + " bears no public name", !names.contains(m.getName()));
+            } else {
+                CHECKS.due("how " + m + " is open", m.getModifiers(), Modifier.PUBLIC);
+                open.add(signature(m));
+            }
+        }
+        CHECKS.holds("the public methods " + open + " are the document's " + due, open.equals(due));
+    }
+
     private static String signature(Method m) {
         StringBuilder s = new StringBuilder(m.getReturnType().getName() + " " + m.getName() + "(");
         for (int k = 0; k < m.getParameterCount(); k++) {
-            s.append(k == 0 ? "" : ",").append(m.getParameterTypes()[k].getName());
+            s.append(k == 0 ? "" : ", ").append(m.getParameterTypes()[k].getName());
         }
         return s.append(")").toString();
     }
 
-    private static void constants() throws Exception {
-        String[] names = {"NONE", "BAD", "NO", "FULL"};
-        for (int k = 0; k < 4; k++) {
-            Field f = PlusCodes.class.getDeclaredField(names[k]);
-            CHECKS.holds(names[k] + " is public static final", f.getModifiers() == (Modifier.PUBLIC | Modifier.STATIC | Modifier.FINAL));
-            CHECKS.due(names[k], f.getInt(null), -1 - k);
+    private static void constants(String face) throws Exception {
+        Set<String> due = new TreeSet<>();
+        Matcher constant = CONSTANT.matcher(face);
+        while (constant.find()) {
+            due.add(constant.group(1));
+            Field f = PlusCodes.class.getDeclaredField(constant.group(1));
+            CHECKS.due("how " + f + " is open", f.getModifiers(), Modifier.PUBLIC | Modifier.STATIC | Modifier.FINAL);
+            CHECKS.holds(f + " is an int", f.getType() == int.class);
+            CHECKS.due(constant.group(1), f.getInt(null), Integer.parseInt(constant.group(2)));
         }
-        int open = 0;
+        CHECKS.due("constants of the document", due.size(), CONSTANTS);
+        Set<String> open = new TreeSet<>();
         for (Field f : PlusCodes.class.getDeclaredFields()) {
-            open += Modifier.isPrivate(f.getModifiers()) ? 0 : 1;
-            CHECKS.holds(f + " is final if it is static", !Modifier.isStatic(f.getModifiers()) || Modifier.isFinal(f.getModifiers()));
+            if (!Modifier.isPrivate(f.getModifiers())) {
+                open.add(f.getName());
+            }
         }
-        CHECKS.due("fields that are not private", open, 4);
+        CHECKS.holds("the fields that are not private " + open + " are the document's " + due, open.equals(due));
     }
 
     private static void inside() {
-        Class<?>[] all = PlusCodes.class.getDeclaredClasses();
-        CHECKS.holds("twelve classes at most", all.length < 12);
-        for (Class<?> c : all) {
+        for (Class<?> c : PlusCodes.class.getDeclaredClasses()) {
             int how = c.getModifiers();
             CHECKS.holds(c + " is static and not open", Modifier.isStatic(how) && !Modifier.isPublic(how) && !Modifier.isProtected(how));
-            CHECKS.holds(c + " has some twenty fields", c.getDeclaredFields().length <= 20);
-            for (Method m : c.getDeclaredMethods()) {
-                CHECKS.holds(m + " has seven parameters at most", m.getParameterCount() <= 7);
-            }
         }
-    }
-
-    private static void language(String source) {
-        String code = source.replaceAll("(?s)/\\*.*?\\*/", "").replaceAll("//[^\n]*", "");
-        for (String word : WORDS_RULED_OUT) {
-            CHECKS.holds("no '" + word + "'", !code.matches("(?s).*\\b" + word.replace(".", "\\.") + "\\b.*"));
-        }
-        CHECKS.holds("no lambda, no method reference", !code.contains("->") && !code.contains("::"));
-        CHECKS.holds("no annotation", !code.contains("@"));
-        for (String line : code.split("\n")) {
-            if (line.startsWith("import")) {
-                CHECKS.holds(line, line.equals("import java.util.Arrays;"));
-            }
-        }
-        CHECKS.holds("texts of signs 1 to 127", source.chars().allMatch(c -> c > 0 && c < 128));
     }
 }
